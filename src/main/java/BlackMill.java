@@ -1221,7 +1221,7 @@ public final class BlackMill {
             }
             int buried = manyLive > 1 ? mostFeared(living()) : NONE;
             if (has(buried)) {
-                set(buried, HOW, BlackMill.BURIED);
+                set(buried, HOW, BURIED);
             }
             for (int i = 0; i < lads; i++) {
                 set(i, WARNED, 0);
@@ -1317,14 +1317,14 @@ public final class BlackMill {
             int fewest = NONE;
             for (int some = 0; some < 1 << SIGNS; some++) {
                 boolean fewer = fewest == NONE || Integer.bitCount(some) < Integer.bitCount(fewest);
-                if (fewer && isTold(lad, some)) {
+                if (fewer && differsFromAll(lad, some)) {
                     fewest = some;
                 }
             }
             return fewest;
         }
 
-        private boolean isTold(int lad, int some) {
+        private boolean differsFromAll(int lad, int some) {
             int own = signs(lad);
             for (int i = 0; i < lads; i++) {
                 if (i != lad && lives(i) && ((own ^ signs(i)) & some) == 0) {

@@ -11,6 +11,7 @@ public final class ActTest {
         years();
         yearsOfALaw();
         lastYears();
+        lastWinters();
         bold();
         winters();
         status();
@@ -212,6 +213,16 @@ public final class ActTest {
         due("P21 art of a new one", Mill.lad(lawful, 0, 0), 0);
         lawful.show(1, 99);
         due("P21 behind 999 the law goes on", lawful.path(0, 3, 1), 7);
+    }
+
+    private static void lastWinters() {
+        BlackMill mill = Mill.of("l;l;l");
+        for (int i = 1; i <= 16; i++) {
+            due("P16 sixty winters", mill.winters(60, i), 60 * i);
+        }
+        due("P16 one too many", mill.winters(40, 5), -1);
+        due("P16 up to 999", mill.winters(39, 5), 999);
+        due("P16 forty acts", mill.count(13), 40);
     }
 
     private static void bold() {
@@ -435,6 +446,17 @@ public final class ActTest {
         mill.years(60);
         due("P48 a long log comes back", mill.back(), 4);
         due("P48 its first year", mill.log(3, 0), 2);
+        mill.years(1);
+        mill.image();
+        mill.undo();
+        mill.come(2);
+        mill.show(0, 0);
+        mill.years(1);
+        mill.come(0);
+        mill.show(1, 20);
+        due("P48 one was buried in another fifth year", mill.log(0, 0) != -1 ? 1 : 0, 1);
+        due("P48 back in the fifth year", mill.back(), 5);
+        due("P48 nobody was buried in it", mill.log(0, 0), -1);
         Mill.tell(mill, 0, "l;l");
         due("P48 no image of another mill", mill.back(), -1);
     }

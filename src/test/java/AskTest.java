@@ -68,6 +68,9 @@ public final class AskTest {
         due("P21 but for no more", Mill.of("lk2;lk2s6;lk3").path(0, 2, 1), -1);
         due("P21 no more than 99", Mill.of("la60s0;lk2s5", "y:9").path(0, 5, 1), 99);
 
+        due("P21 others grow older by the master", Mill.of("sy9;l;lk3", "y:o-16").path(1, 2, 1), 17);
+        due("P21 the master's lesson", Mill.of("sl7;la0s0;l").path(0, 1, 1), 7);
+
         mill = Mill.of("la20f1;la15s12f0");
         due("P21 not warned", mill.path(0, 1, 0), 1);
         mill.warn(1);
@@ -308,6 +311,8 @@ public final class AskTest {
         }
         due("P34 all orders", all, 24);
         due("P34 the weakest", odd.shares(0), weakest());
+        due("P34 the fourth", Mill.of("sp40;l;l;l;l").shares(2), 6);
+        due("P34 the fifth", Mill.of("sp41;l;l;l;l;l").shares(0), 24);
         due("P34 never enough", Mill.of("sp99;l;l").shares(0), 0);
         BlackMill many = Mill.of("sp10;l;l;l;l;l;l");
         due("P34 six live", many.shares(0), HIDDEN);
@@ -371,6 +376,8 @@ public final class AskTest {
         mill.leave(1);
         due("P35 one left", mill.game(0, 1, 0, 0, 0), HIDDEN);
         due("P35 the other left", mill.game(1, 0, 0, 0, 0), HIDDEN);
+        due("P35 nothing is nothing", Mill.of("l;l;la60s60k2", "y:s").game(0, 1, 0, 0, 0), 0);
+        due("P35 nothing for the other", Mill.of("l;l;la60s60k2", "y:s").game(0, 1, 0, 0, 1), 0);
         due("P35 by a law", Mill.of("la20;la30;l", "y:s/10+n").game(0, 1, 1, 1, 0), 5);
         mill = Mill.of("la20f1;la15f0;ls7");
         mill.warn(1);
@@ -460,6 +467,8 @@ public final class AskTest {
         due("P39 all lots", mill.odds(1, 1), 0);
         mill.leave(1);
         due("P39 no lots", mill.odds(2, 5), 1000000000);
+        due("P39 one lot in all", Mill.of("la0s0;lk3").odds(0, 1), 0);
+        due("P39 none of it", Mill.of("la0s0;lk3").odds(1, 1), 1000000000);
         due("P39 no mill", new BlackMill().odds(0, 0), -1);
         long left = 1000000000L;
         mill = Mill.of("ls9;la20k2s9;l;la41s41k1");
@@ -531,6 +540,8 @@ public final class AskTest {
         due("P43 the other spy", Mill.of("lk3;lk3").safe(1), 10);
         BlackMill last = Mill.of("l;l");
         last.leave(1);
+        due("P43 nothing at all", Mill.of("la0s0;la1s1").safe(1), 0);
+        due("P43 not even nothing", Mill.of("la1s1;la0s0").safe(0), -1);
         due("P43 the last one", last.safe(0), -1);
         BlackMill warned = Mill.of("la20s0;ls6f0");
         warned.warn(1);

@@ -63,6 +63,14 @@ public final class TextTest {
         due("P2 negative numbers", mill.feed(0, 0, 0, 0, 0xFF000000), 240);
         due("P2 a byte of 255", mill.fault(0), 239);
 
+        mill.end(237);
+        for (int i = 0; i < 5; i++) {
+            int[] words = new int[5];
+            words[i] = 0x20202020;
+            due("P2 four more than 240 in number " + i, mill.feed(words[0], words[1], words[2], words[3], words[4]), -1);
+        }
+        due("P2 one in each of three", mill.feed(0, 32, 32, 32, 0), 240);
+
         due("P3 end 241", mill.end(241) ? 1 : 0, 0);
         due("P3 end -1", mill.end(-1) ? 1 : 0, 0);
         due("P3 end itself", mill.end(240) ? 1 : 0, 1);
@@ -78,6 +86,9 @@ public final class TextTest {
     private static void millFaults() {
         due("P4 no such sort", new BlackMill().fault(2), -2);
         due("P4 no such sort, below", new BlackMill().fault(-1), -2);
+        BlackMill again = Mill.fed("s;l;l");
+        due("P4 asked once", again.fault(0), -1);
+        due("P4 asked again", again.fault(0), -1);
         millFault("", 0);
         millFault("  ", 2);
         millFault("l;l", -1);
@@ -106,6 +117,7 @@ public final class TextTest {
         millFault("la001;l", 4);
         millFault("la600;l", 4);
         millFault("la60s61;l", 6);
+        millFault("lk0;l", -1);
         millFault("lk3;l", -1);
         millFault("lk4;l", 2);
         millFault("lk04;l", 3);
@@ -264,7 +276,6 @@ public final class TextTest {
         mill.image();
         mill.out(1, true);
         mill.grave(0, 20, true);
-        mill.warn(0);
         mill.end(0);
         Mill.feed(mill, "l;lf0;lk3o60;w");
         due("P5 another mill", mill.text(0), 3);
@@ -279,6 +290,12 @@ public final class TextTest {
         due("P5 another mill, all could be spies", mill.spies(1, -1), 3);
         due("P5 another mill, all could have dug", mill.dug(), 7);
 
+        mill.warn(1);
+        due("P5 warned", mill.count(8), 1);
+        mill.leave(1);
+        Mill.tell(mill, 0, "l;lf0;lk3o60;w");
+        due("P5 nobody is warned in another mill", mill.count(8), 0);
+        due("P5 all live in another mill", mill.count(6), 7);
         mill.years(2);
         Mill.feed(mill, "l;l;lf5");
         due("P5 a faulty mill", mill.text(0), -1);
