@@ -634,9 +634,10 @@ public final class BlackMill {
     }
 
     private static void move(int[] from, int start, int[] to, int place, int many) {
-        boolean fits = start >= 0 && place >= 0 && many >= 0
-            && many <= from.length - start && many <= to.length - place;
-        if (fits) {
+        if (start < 0 || place < 0 || many < 0) {
+            return;
+        }
+        if (many <= from.length - start && many <= to.length - place) {
             System.arraycopy(from, start, to, place, many);
         }
     }
@@ -697,8 +698,10 @@ public final class BlackMill {
             while (place >= 0 && place < length && place < bytes.length && bytes[place] == ' ') {
                 place++;
             }
-            boolean more = bad == NONE && place >= 0 && place < length && place < bytes.length;
-            return more ? bytes[place] : OVER;
+            if (bad != NONE || place < 0 || place >= length || place >= bytes.length) {
+                return OVER;
+            }
+            return bytes[place];
         }
 
         void step() {
