@@ -64,4 +64,27 @@ final class Mill {
             return Check.THROWS;
         }
     }
+
+    /** All that can be seen of a mill but what was refused and how many acts can be undone. */
+    static String all(BlackMill mill) {
+        StringBuilder all = new StringBuilder();
+        for (int what = 0; what < 13; what++) {
+            all.append(mill.count(what)).append(' ');
+        }
+        for (int lad = 0; lad < mill.count(0); lad++) {
+            for (int what = 0; what < 9; what++) {
+                all.append(lad(mill, lad, what)).append(what < 8 ? ',' : ';');
+            }
+        }
+        for (int i = 0; i < mill.count(12); i++) {
+            all.append(mill.log(i, 0)).append(',').append(mill.log(i, 1)).append(',').append(mill.log(i, 2)).append(';');
+        }
+        for (int what = 0; what < 4; what++) {
+            all.append(mill.master(what)).append(' ');
+        }
+        for (int i = 0; i < mill.count(1) * 3; i++) {
+            all.append(mill.way(i / 3, i % 3)).append(' ');
+        }
+        return all.append(mill.fault(0)).append(' ').append(mill.fault(1)).toString();
+    }
 }
