@@ -360,6 +360,8 @@ final class BoundsOfAsks extends Bounds {
         due("less than a third one now", Mill.of("la15;la20;la30s20", "y:5").game(0, 1, 1, 0, 0), 5);
         due("more than a third one now", Mill.of("la25;la20;la30s20", "y:5").game(0, 1, 1, 0, 0), -45);
         says("less 50, if it would be BURIED in it");
+        due("who shows nothing is feared more than a spy", Mill.of("lk3;l", "y:5").game(1, 0, 0, 0, 0), -45);
+        due("by the other way round, too", Mill.of("lk3;l", "y:5").game(0, 1, 0, 0, 1), -45);
         due("buried", Mill.of("la20;la20", "y:5").game(0, 1, 1, 1, 0), -45);
         due("not buried", Mill.of("la20;la20", "y:5").game(0, 1, 1, 1, 1), 5);
         due("the other is", Mill.of("la20;la20", "y:5").game(0, 1, 0, 1, 1), -45);
@@ -586,6 +588,8 @@ final class BoundsOfAsks extends Bounds {
         due("the last", Mill.of("l;l;l").spies(2, 2), 6);
         says("NONE: no such one");
         due("above", Mill.of("l;l;l").spies(2, 3), NONE);
+        due("above, of one", Mill.of("l;l;l").spies(1, 3), NONE);
+        due("above, of three", Mill.of("l;l;l").spies(3, 1), NONE);
         due("below", Mill.of("l;l;l").spies(2, -2), NONE);
         noMill("no MILL", (some, lad) -> some.spies(1, NONE));
         says("out of bounds");

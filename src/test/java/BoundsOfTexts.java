@@ -200,7 +200,9 @@ final class BoundsOfTexts extends Bounds {
         law("y:", 2);
         law("y:0", NONE);
         learns("y:7", 7);
-        learns("y:9999-9992", 7);
+        for (int number = 7; number <= 9999; number++) {
+            learns("y:" + number + "-" + (number - 7), 7);
+        }
         learns("y:0007", 7);
         law("y:00007", 6);
         says("(A CLAUSE that goes on with ! or ( behind its : has a CONDITION.)");
@@ -281,6 +283,10 @@ final class BoundsOfTexts extends Bounds {
         learns("y:a<31?7", 7);
         learns("y:a>30?7", 0);
         learns("y:a>29?7", 7);
+        learns("y:a=29|a=31?7;y:3", 3);
+        learns("y:a=29|a=30?7;y:3", 7);
+        learns("y:a=30&a=31?7;y:3", 3);
+        learns("y:!a=30?7;y:3", 3);
     }
 
     // ---- faults ----
@@ -445,6 +451,11 @@ final class BoundsOfTexts extends Bounds {
         says("NONE: none");
         mill("l;l", NONE);
         law("y:1", NONE);
+        BlackMill again = Mill.fed("s;l;l;ls11;wa1");
+        due("a faulty text", again.fault(0), 14);
+        again.end(5);
+        due("the part of it that is not", again.fault(0), NONE);
+        due("once more", again.fault(0), NONE);
         says("-2: no such sort");
         due("below", Mill.fault(-1, "l;l"), -2);
         due("above", Mill.fault(2, "l;l"), -2);
