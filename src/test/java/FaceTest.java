@@ -40,7 +40,9 @@ public final class FaceTest {
             check.due(inner + " is static", Modifier.isStatic(inner.getModifiers()), true);
             check.due(inner + " is seen", (inner.getModifiers() & (Modifier.PUBLIC | Modifier.PROTECTED)) != 0, false);
             privateNames(check, names, inner);
+            ownFields(check, inner);
         }
+        ownFields(check, BlackMill.class);
         check.due("classes inside", BlackMill.class.getDeclaredClasses().length <= 12, true);
         check.end();
     }
@@ -70,6 +72,16 @@ public final class FaceTest {
         check.due("fields " + seen, seen.equals(Set.of("NONE", "HIDDEN")), true);
         check.due("NONE", BlackMill.NONE, -1);
         check.due("HIDDEN", BlackMill.HIDDEN, -1000000);
+    }
+
+    private static void ownFields(Check check, Class<?> type) {
+        int many = 0;
+        for (Field field : type.getDeclaredFields()) {
+            boolean fixed = Modifier.isStatic(field.getModifiers());
+            check.due(type + "." + field.getName() + " can change", fixed && !Modifier.isFinal(field.getModifiers()), false);
+            many += fixed ? 0 : 1;
+        }
+        check.due(type + " has more than twenty fields", many > 20, false);
     }
 
     private static void privateNames(Check check, Set<String> names, Class<?> type) {

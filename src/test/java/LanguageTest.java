@@ -13,7 +13,7 @@ public final class LanguageTest {
         "->", "::", "\\bsynchronized\\b", "\\bassert\\b", "\\bfinally\\b", "\\bcatch\\b", "Exact\\(", "\\binstanceof\\b",
         "System\\.(?!arraycopy)", "\\bpackage\\b", "\\bThread\\b", "\\bRandom\\b", "static \\{", "hashCode", "toString",
         "\\bprotected\\b", "\"[^\"]*\" \\+", "\\+ \"", "\\bString\\.", "\\bwhile \\(true\\)", "for \\(;;\\)",
-        "static (?!final)[a-z]+(\\[\\])? [a-zA-Z]+( =|;)"};
+        "[^\\x00-\\x7f]", "static (?!final)[a-z]+(\\[\\])? [a-zA-Z]+( =|;)"};
 
     public static void main(String[] args) throws IOException {
         Check check = new Check("LanguageTest");
