@@ -1,6 +1,5 @@
 import java.io.ByteArrayOutputStream;
 import java.io.File;
-import java.io.IOException;
 import java.io.PrintStream;
 import java.lang.reflect.Method;
 import java.lang.reflect.Modifier;
@@ -13,8 +12,6 @@ import java.util.ArrayList;
 import java.util.List;
 import java.util.regex.Matcher;
 import java.util.regex.Pattern;
-import javax.tools.JavaCompiler;
-import javax.tools.ToolProvider;
 
 /** README.md's example prints what stands behind its calls, and its tables miss no call and no test. */
 public final class ReadmeTest {
@@ -22,7 +19,7 @@ public final class ReadmeTest {
     private static final Pattern SAID = Pattern.compile("say\\(mill\\.(.*)\\); +// ([-\\w]+): ");
     private static final Pattern QUOTED = Pattern.compile("`(\\w+)`");
 
-    public static void main(String[] args) throws IOException, ReflectiveOperationException {
+    public static void main(String[] args) throws Exception {
         Check check = new Check("ReadmeTest");
         String readme = Files.readString(Path.of("README.md"));
         Matcher example = EXAMPLE.matcher(readme);
@@ -35,7 +32,7 @@ public final class ReadmeTest {
         check.end();
     }
 
-    private static void answers(Check check, String code) throws IOException, ReflectiveOperationException {
+    private static void answers(Check check, String code) throws Exception {
         List<String> calls = new ArrayList<>();
         List<String> due = new ArrayList<>();
         Matcher said = SAID.matcher(code);
@@ -52,13 +49,12 @@ public final class ReadmeTest {
         }
     }
 
-    private static String[] printed(Check check, String code) throws IOException, ReflectiveOperationException {
+    private static String[] printed(Check check, String code) throws Exception {
         Path place = Files.createTempDirectory("readme");
         Path file = Files.writeString(place.resolve("Example.java"), code);
-        JavaCompiler javac = ToolProvider.getSystemJavaCompiler();
         String path = System.getProperty("java.class.path");
-        int failed = javac.run(null, null, null, "-cp", path, "-d", place.toString(), file.toString());
-        check.due("the example can't be compiled", failed, 0);
+        Process javac = new ProcessBuilder("javac", "-cp", path, "-d", place.toString(), file.toString()).inheritIO().start();
+        check.due("the example can't be compiled", javac.waitFor(), 0);
         PrintStream out = System.out;
         ByteArrayOutputStream caught = new ByteArrayOutputStream();
         try (URLClassLoader loader = new URLClassLoader(new URL[] {place.toUri().toURL()})) {
